@@ -348,7 +348,7 @@ public final class DialectForms {
         int least = Integer.MAX_VALUE;
         for (int c = 0; c < candidates.total; c++) {
             candidates.writeTo(trial, c);
-            int costs = costsOfTrial(meaning);
+            int costs = costsOfTrial(meaning, least);
             if (costs < least) {
                 least = costs;
                 best.become(trial);
@@ -357,9 +357,10 @@ public final class DialectForms {
         return least;
     }
 
-    private int costsOfTrial(int meaning) {
+    /** Leaves off where it comes to enough: such a row is no longer the best. */
+    private int costsOfTrial(int meaning, int enough) {
         int costs = 0;
-        for (int p = 0; p < placeCount; p++) {
+        for (int p = 0; p < placeCount && costs < enough; p++) {
             int f = saidForms[p * MEANINGS + meaning];
             if (!isForm(f)) {
                 continue;
@@ -1077,19 +1078,16 @@ public final class DialectForms {
             boolean changed = false;
             for (int k = 0; k < was.size; k++) {
                 int x = was.at(k);
-                int becomes = isMeant(law, k) ? law.result : x;
+                boolean meant = sounds.isOf(x, law.target)
+                    && sounds.isOf(was.at(k - 1), law.left)
+                    && sounds.isOf(was.at(k + 1), law.right);
+                int becomes = meant ? law.result : x;
                 if (becomes != Law.GOES) {
                     row.add(becomes);
                 }
                 changed = changed || becomes != x;
             }
             return changed;
-        }
-
-        private boolean isMeant(Law law, int k) {
-            return sounds.isOf(was.at(k), law.target)
-                && sounds.isOf(was.at(k - 1), law.left)
-                && sounds.isOf(was.at(k + 1), law.right);
         }
     }
 
@@ -1118,11 +1116,9 @@ public final class DialectForms {
         }
 
         private boolean takes(char sign) {
-            if (!isAt(sign)) {
-                return false;
-            }
-            at++;
-            return true;
+            boolean taken = at < size && codes[at] == sign;
+            at += taken ? 1 : 0;
+            return taken;
         }
 
         private boolean readTarget(Law into) {
@@ -1131,26 +1127,20 @@ public final class DialectForms {
         }
 
         private boolean readResult(Law into) {
-            if (takes('0')) {
-                into.result = Law.GOES;
-                return true;
-            }
-            into.result = takeBetween('a', 'p');
+            into.result = takes('0') ? Law.GOES : takeBetween('a', 'p', 0);
             return into.result != Law.NO_PATTERN;
         }
 
         private boolean readSides(Law into) {
-            return takes('/') && readLeft(into) && takes('_') && readRight(into) && isAtEnd();
-        }
-
-        private boolean readLeft(Law into) {
+            if (!takes('/')) {
+                return false;
+            }
             into.left = isAt('_') ? Law.ANY : takeSide();
-            return into.left != Law.NO_PATTERN;
-        }
-
-        private boolean readRight(Law into) {
+            if (into.left == Law.NO_PATTERN || !takes('_')) {
+                return false;
+            }
             into.right = isAtEnd() ? Law.ANY : takeSide();
-            return into.right != Law.NO_PATTERN;
+            return into.right != Law.NO_PATTERN && isAtEnd();
         }
 
         private int takeSide() {
@@ -1159,22 +1149,18 @@ public final class DialectForms {
 
         private int takePattern() {
             if (takes('+')) {
-                return takeFeature(Law.HAS);
+                return takeBetween('0', '5', Law.HAS);
             }
-            return takes('-') ? takeFeature(Law.HAS_NOT) : takeBetween('a', 'p');
+            return takes('-') ? takeBetween('0', '5', Law.HAS_NOT) : takeBetween('a', 'p', 0);
         }
 
-        private int takeFeature(int first) {
-            int feature = takeBetween('0', '5');
-            return feature == Law.NO_PATTERN ? feature : first + feature;
-        }
-
-        private int takeBetween(char first, char last) {
-            if (isAtEnd() || !isWithin(codes[at], first, last)) {
+        /** Takes a code from least to most as the pattern that is as far from first as it is from least. */
+        private int takeBetween(char least, char most, int first) {
+            if (at >= size || codes[at] < least || codes[at] > most) {
                 return Law.NO_PATTERN;
             }
             at++;
-            return codes[at - 1] - first;
+            return first + codes[at - 1] - least;
         }
     }
 

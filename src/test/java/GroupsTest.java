@@ -81,7 +81,11 @@ public final class GroupsTest {
         check.due("27: the first", x.border(0, 0), 1);
         check.due("27: the second", x.border(0, 1), 12);
         check.due("27: no third", x.border(0, 2), -9);
+        x.limit(2);
+        check.due("27: LIMIT at most is LIKE", x.border(0, -1), 2);
+        check.due("28: LIMIT at most is LIKE", x.bundle(0, 2), 0);
         x.limit(1);
+        check.due("28: more is not", x.bundle(0, 2), 1);
         check.due("27: between", x.border(0, 1), 2);
         check.due("27: three", x.border(0, -1), 3);
         x.near(0, 2, false);

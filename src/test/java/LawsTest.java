@@ -5,6 +5,7 @@ public final class LawsTest {
         goodTexts(check);
         wrongTexts(check);
         lawRefusals(check);
+        nothingStaysOfWrongTexts(check);
         force(check);
         done(check);
         sides(check);
@@ -67,6 +68,9 @@ public final class LawsTest {
         check.due("14: fault", x.fault(), 3);
         check.due("14: none at the end", x.law(3, 0, 1, 3, 0), -100);
         check.due("14: fault of a FIRST FAULT", x.fault(), 0);
+        x.law(3, 0, 1, 4, 0);
+        check.due("14: a refusal ahead of the FAULTS", x.law(4, 0, 1, 4, 0), -2);
+        check.due("14: fault of a refusal", x.fault(), 0);
         for (int l = 0; l < 8; l++) {
             check.due("14: LAW", Check.law(x, 3, "a>b"), l);
         }
@@ -75,6 +79,17 @@ public final class LawsTest {
         check.due("14: LAWS", x.many(2), 8);
         Check.root(x, 0, "a");
         check.isTrue("14: FULL changes nothing", Check.derived(x, 0, 0, 8).equals("b"));
+    }
+
+    private static void nothingStaysOfWrongTexts(Check check) {
+        DialectForms x = Check.withPlaces(1);
+        Check.root(x, 0, "aaa");
+        check.due("14: a wrong TEXT", Check.law(x, 1, "a>c/#_#a"), -107);
+        check.due("14: a good one", Check.law(x, 1, "a>b"), 0);
+        check.isTrue("14: without sides", Check.derived(x, 0, 0, 8).equals("bbb"));
+        check.due("14: a wrong TEXT", Check.law(x, 1, "b>c/#_#a"), -107);
+        check.due("14: a good one", Check.law(x, 1, "b>0/_"), 1);
+        check.isTrue("14: without sides", Check.derived(x, 0, 0, 8).equals(""));
     }
 
     private static void force(Check check) {

@@ -87,6 +87,9 @@ public final class PlacesTest {
         check.due("8: no SOUND 16", x.form(0, 0, 0, 0, 2, 8, 1), -1);
         x.put(0, 8, -1);
         check.due("8: no SOUND -1", x.form(0, 0, 0, 0, 2, 8, 1), -1);
+        x.form(0, 0, 0, 0, 0, 0, 0);
+        check.due("8: a refusal ahead of the FAULTS", x.form(0, 1, 0, 0, 2, 0, 0), -1);
+        check.due("8: fault of a refusal", x.fault(), 0);
         check.due("8: refusals change nothing", x.many(1), 0);
         check.due("8: at the end, none taken", x.form(0, 0, 0, 0, 2, 9, 0), 0);
     }
@@ -139,6 +142,8 @@ public final class PlacesTest {
         check.due("9: SIZE", x.read(0, 0, 0, 0, 0, 61, -1), -14);
         check.due("9: INDEX", x.read(0, 0, 0, 0, 0, 61, 0), -13);
         check.due("9: fault", x.fault(), 3);
+        check.due("9: a refusal ahead of the FAULTS", x.read(0, 1, 0, 0, 0, 0, 0), -1);
+        check.due("9: fault of a refusal", x.fault(), 0);
         Check.entry(x, 0, 'a', "x");
         for (int f = 0; f < 40; f++) {
             check.due("9: FORM", x.read(0, 0, 0, 0, 0, 60, 0), f);
@@ -208,6 +213,8 @@ public final class PlacesTest {
         check.due("12: SIZE", x.root(0, 0, 1, 10, -1), -14);
         check.due("12: INDEX", x.root(0, 0, 1, 10, 0), -13);
         check.due("12: fault", x.fault(), 3);
+        check.due("12: a refusal ahead of the FAULTS", x.root(0, 0, 3, 0, 0), -2);
+        check.due("12: fault of a refusal", x.fault(), 0);
         x.put(0, 0, 16);
         check.due("12: n ahead of a SOUND", x.root(0, 0, 1, 0, 9), -2);
         check.due("12: a SOUND", x.root(0, 0, 1, 0, 8), -1);

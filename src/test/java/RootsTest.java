@@ -4,6 +4,7 @@ public final class RootsTest {
         Check check = new Check();
         sought(check);
         soughtTies(check);
+        soughtOfMeanings(check);
         soughtRefusals(check);
         regular(check);
         ways(check);
@@ -65,6 +66,19 @@ public final class RootsTest {
         // those of which nothing is told DIFFER by nothing: the first as a row
         found(check, x, 0b1101100000000000, 0, "l");
         found(check, x, 0b1111100000000000, 0, "l");
+    }
+
+    private static void soughtOfMeanings(Check check) {
+        DialectForms x = Check.withPlaces(2);
+        x.sound(0, 63, 0);
+        x.sound(1, 0, 63);
+        Check.form(x, 0, 0, 5, "ab");
+        Check.form(x, 0, 1, 5, "ab");
+        Check.form(x, 0, 1, 4, "b");
+        check.due("21: another MEANING's COSTS", x.sought(5, 3, -2), 0);
+        check.due("21: another MEANING's row", x.sought(5, 3, -1), 2);
+        check.due("21: SAID at one PLACE alone", x.sought(4, 3, -2), 0);
+        check.due("21: SAID at one PLACE alone", x.sought(4, 3, 0), 1);
     }
 
     private static void soughtRefusals(Check check) {
