@@ -1181,21 +1181,15 @@ public final class DialectForms {
         private int leastCost(Row first, Row second) {
             for (int i = first.size; i >= 0; i--) {
                 for (int j = second.size; j >= 0; j--) {
-                    rest[i * SIDE + j] = leastRest(first, second, i, j);
+                    if (i == first.size || j == second.size) {
+                        rest[i * SIDE + j] = (first.size - i + second.size - j) * gap;
+                        continue;
+                    }
+                    int alone = Math.min(rest[(i + 1) * SIDE + j], rest[i * SIDE + j + 1]) + gap;
+                    rest[i * SIDE + j] = Math.min(alone, costOfPair(first, second, i, j));
                 }
             }
             return rest[0];
-        }
-
-        private int leastRest(Row first, Row second, int i, int j) {
-            if (i == first.size) {
-                return (second.size - j) * gap;
-            }
-            if (j == second.size) {
-                return (first.size - i) * gap;
-            }
-            int alone = Math.min(rest[(i + 1) * SIDE + j], rest[i * SIDE + j + 1]) + gap;
-            return Math.min(alone, costOfPair(first, second, i, j));
         }
 
         private int costOfPair(Row first, Row second, int i, int j) {
