@@ -141,15 +141,9 @@ public final class DialectForms {
         if (!isWithin(kind, FORM, GUESS) || !isBelow(lane, LANES)) {
             return OUTSIDE;
         }
-        int failed = takeCells(sheet, lane, i, n);
+        int failed = takeSounds(sheet, lane, i, n);
         if (failed != 0) {
             return failed;
-        }
-        if (n > MOST_SOUNDS) {
-            return OUTSIDE;
-        }
-        if (!areTakenBelow(SOUNDS, n)) {
-            return UNKNOWN;
         }
         work.becomeCells(taken, n);
         return addForm(kind, p, meaning);
@@ -220,15 +214,9 @@ public final class DialectForms {
         if (!isBelow(lane, LANES)) {
             return OUTSIDE;
         }
-        int failed = takeCells(sheet, lane, i, n);
+        int failed = takeSounds(sheet, lane, i, n);
         if (failed != 0) {
             return failed;
-        }
-        if (n > MOST_SOUNDS) {
-            return OUTSIDE;
-        }
-        if (!areTakenBelow(SOUNDS, n)) {
-            return UNKNOWN;
         }
         roots[meaning].becomeCells(taken, n);
         rooted |= 1 << meaning;
@@ -746,6 +734,18 @@ public final class DialectForms {
         }
         System.arraycopy(sheets[sheet].cells, i, taken, 0, n);
         return 0;
+    }
+
+    /** Takes n SOUNDS into taken: 0, or the answer to what is wrong with them. */
+    private int takeSounds(int sheet, int lane, int i, int n) {
+        int failed = takeCells(sheet, lane, i, n);
+        if (failed != 0) {
+            return failed;
+        }
+        if (n > MOST_SOUNDS) {
+            return OUTSIDE;
+        }
+        return areTakenBelow(SOUNDS, n) ? 0 : UNKNOWN;
     }
 
     private boolean areTakenBelow(int bound, int n) {

@@ -88,6 +88,9 @@ public final class LawsTest {
         check.due("14: a good one", Check.law(x, 1, "a>b"), 0);
         check.isTrue("14: without sides", Check.derived(x, 0, 0, 8).equals("bbb"));
         check.due("14: a wrong TEXT", Check.law(x, 1, "b>c/#_#a"), -107);
+        check.due("14: a shorter one", Check.law(x, 1, "b>c/#"), -105);
+        check.due("14: a shorter one", Check.law(x, 1, "b>"), -102);
+        check.due("14: a shorter one", Check.law(x, 1, "b"), -101);
         check.due("14: a good one", Check.law(x, 1, "b>0/_"), 1);
         check.isTrue("14: without sides", Check.derived(x, 0, 0, 8).equals(""));
     }
