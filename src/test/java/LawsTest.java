@@ -4,6 +4,7 @@ public final class LawsTest {
         Check check = new Check();
         goodTexts(check);
         wrongTexts(check);
+        codes(check);
         lawRefusals(check);
         nothingStaysOfWrongTexts(check);
         force(check);
@@ -48,6 +49,59 @@ public final class LawsTest {
         Check.cells(x, 0, 'b', 'a', '>', 'b', '/', 'q');
         check.due("14: TEXTS from i on", x.law(1, 0, 2, 1, 4), -104);
         check.due("14: TEXTS from i on", x.law(1, 0, 2, 1, 3), 0);
+    }
+
+    private static final String LETTERS = "abcdefghijklmnop", FEATURES = "012345";
+
+    /** What begins a TEXT, with the codes with which it goes on; every other code is the FIRST FAULT. */
+    private static void codes(Check check) {
+        goesOn(check, "", LETTERS + "+-");
+        goesOn(check, "+", FEATURES);
+        goesOn(check, "-", FEATURES);
+        goesOn(check, "a", ">");
+        goesOn(check, "+0", ">");
+        goesOn(check, "-5", ">");
+        goesOn(check, "a>", LETTERS + "0");
+        goesOn(check, "a>b", "/");
+        goesOn(check, "a>0", "/");
+        goesOn(check, "+5>p", "/");
+        goesOn(check, "a>b/", LETTERS + "+-#_");
+        goesOn(check, "a>b/+", FEATURES);
+        goesOn(check, "a>b/-", FEATURES);
+        goesOn(check, "a>b/c", "_");
+        goesOn(check, "a>b/#", "_");
+        goesOn(check, "a>b/+3", "_");
+        goesOn(check, "a>b/-3", "_");
+        goesOn(check, "a>b/_", LETTERS + "+-#");
+        goesOn(check, "a>b/c_", LETTERS + "+-#");
+        goesOn(check, "a>b/#_", LETTERS + "+-#");
+        goesOn(check, "a>b/_+", FEATURES);
+        goesOn(check, "a>b/_-", FEATURES);
+        goesOn(check, "a>b/_c", "");
+        goesOn(check, "a>b/_#", "");
+        goesOn(check, "a>b/#_+3", "");
+        goesOn(check, "+1>0/-2_-3", "");
+    }
+
+    private static void goesOn(Check check, String begun, String good) {
+        int place = begun.length();
+        for (int code = -2; code <= 400; code++) {
+            DialectForms x = Check.withPlaces(1);
+            x.sheet(0, 2, 20);
+            for (int i = 0; i < place; i++) {
+                x.put(0, i, begun.charAt(i));
+            }
+            x.put(0, place, code);
+            String what = "14: " + begun + " and then " + code;
+            int got = x.law(1, 0, 2, 0, place + 1);
+            if (good.indexOf(code) < 0) {
+                check.due(what, got, -100 - place);
+                check.due(what + " and more", x.law(1, 0, 2, 0, 20), -100 - place);
+            } else {
+                check.isTrue(what + " answered " + got, got == 0 || got == -100 - place - 1);
+                check.due(what + " and then 0", x.law(1, 0, 2, 0, place + 2), -100 - place - 1);
+            }
+        }
     }
 
     private static void lawRefusals(Check check) {

@@ -3,9 +3,11 @@ public final class PartsTest {
     public static void main(String[] args) {
         Check check = new Check();
         tell(check);
+        tellOfEdges(check);
         name(check);
         as(check);
         trace(check);
+        traceWraps(check);
         fault(check);
         many(check);
         check.end();
@@ -38,6 +40,23 @@ public final class PartsTest {
         check.due("34: no FORM", x.tell(3), -1);
         check.due("34: no FORM", x.tell(-1), -1);
         check.due("34: refusals leave nothing", x.trace(), left(1, 2, 1, 3, 2, 1, 1));
+    }
+
+    private static void tellOfEdges(Check check) {
+        DialectForms x = Check.withPlaces(1);
+        int[] ofNothing = {0, 10, 10};
+        int[] ofEight = {8, 18, 26};
+        for (int kind = 0; kind < 3; kind++) {
+            Check.form(x, kind, 0, 0, "");
+            Check.form(x, kind, 0, 0, "aaaaaaaa");
+            check.due("34: of no SOUNDS, kind " + kind, x.tell(2 * kind), ofNothing[kind]);
+            check.due("34: of eight SOUNDS, kind " + kind, x.tell(2 * kind + 1), ofEight[kind]);
+            check.due("35: NAMED, kind " + kind, x.name(2 * kind), kind == 2 ? 70 : 2 * kind);
+        }
+        for (int f = 6; f < 40; f++) {
+            Check.form(x, 1, 0, 0, "");
+        }
+        check.due("35: the last FORM", x.name(39), 39);
     }
 
     private static void name(Check check) {
@@ -80,6 +99,17 @@ public final class PartsTest {
             check.due("37: it wraps", x.trace(), due);
         }
         check.due("37: it stays", x.trace(), due);
+    }
+
+    private static void traceWraps(Check check) {
+        DialectForms x = object();
+        // 31 times 118333824 and 4 is 3668348548, beyond an int; 31 times what it wraps to is beyond it on the other side
+        int[] due = {4, 128, 3972, 123136, 3817220, 118333824, -626618748, 2049655296, -885195260};
+        check.due("37: at first", x.trace(), 0);
+        for (int step : due) {
+            x.name(0);
+            check.due("37: it wraps", x.trace(), step);
+        }
     }
 
     private static void fault(Check check) {

@@ -7,6 +7,8 @@ public final class SheetsTest {
         sheet(check);
         lose(check);
         put(check);
+        cut(check);
+        whatIsCutIsTaken(check);
         cell(check);
         check.end();
     }
@@ -72,6 +74,46 @@ public final class SheetsTest {
             check.due("32: the other cell", x.cell(1, 0, (int) row[0]), 0);
         }
         check.due("32: the other SHEET", x.cell(0, 1, 0), 0);
+    }
+
+    private static void cut(Check check) {
+        int[][] due = {
+            {0, 127, 127}, {0, 128, -128}, {0, -128, -128}, {0, -129, 127}, {0, 255, -1}, {0, 256, 0}, {0, -256, 0},
+            {0, Integer.MAX_VALUE, -1}, {0, Integer.MIN_VALUE, 0},
+            {1, 127, 127}, {1, 128, 128}, {1, 32767, 32767}, {1, 32768, -32768}, {1, -32768, -32768},
+            {1, -32769, 32767}, {1, 65535, -1}, {1, 65536, 0}, {1, Integer.MAX_VALUE, -1}, {1, Integer.MIN_VALUE, 0},
+            {2, 32768, 32768}, {2, -32769, -32769}, {2, 65536, 65536}, {2, Integer.MAX_VALUE, Integer.MAX_VALUE},
+            {2, Integer.MIN_VALUE, Integer.MIN_VALUE}};
+        DialectForms x = new DialectForms();
+        for (int[] row : due) {
+            x.sheet(1, row[0], 1);
+            check.due("32: it becomes so", x.put(1, 0, row[1]), 1);
+            check.due("32: " + row[1] + " cut to LANE " + row[0], x.cell(1, 0, row[0]), row[2]);
+        }
+    }
+
+    /** What is no SOUND and no code as an int may be one when it is cut. */
+    private static void whatIsCutIsTaken(Check check) {
+        int[] one = {256 + 'a', 65536 + 'a', 'a'};
+        for (int has = 0; has < 3; has++) {
+            DialectForms x = Check.withPlaces(1);
+            x.sheet(0, has, 3);
+            x.put(0, 0, one[has]);
+            x.put(0, 1, '>');
+            x.put(0, 2, 'b');
+            check.due("14: a TEXT of LANE " + has, x.law(1, 0, has, 0, 3), 0);
+            check.due("5: a code of LANE " + has, x.entry(0, 3, 0, has, 0, 1), 1);
+            x.put(0, 0, one[has] - 'a');
+            check.due("8: a SOUND of LANE " + has, x.form(0, 0, 0, 0, has, 0, 1), 0);
+            check.due("12: a SOUND of LANE " + has, x.root(0, 0, has, 0, 1), 1);
+            check.due("10: it is the first", x.ofForm(0, 10), 0);
+        }
+        DialectForms x = Check.withPlaces(1);
+        x.sheet(0, 0, 1);
+        x.put(0, 0, 128);
+        check.due("5: 128 is below 0 as a byte", x.entry(0, 0, 0, 0, 0, 1), -2);
+        x.put(0, 0, -1);
+        check.due("8: no SOUND", x.form(0, 0, 0, 0, 0, 0, 1), -1);
     }
 
     private static void cell(Check check) {
