@@ -30,6 +30,7 @@ public final class FullAndEmptyTest {
         test.soughtOfNothing();
         test.soughtOfAll();
         test.lastRowSought();
+        test.byAllLaws();
         test.regular();
         test.ways();
         test.ordersOfFewLaws();
@@ -428,6 +429,24 @@ public final class FullAndEmptyTest {
             }
             check.due("23: one way", x.ways(0, 31 << 11), 1);
         }
+    }
+
+    private void byAllLaws() {
+        DialectForms x = Check.withPlaces(8);
+        for (int l = 0; l < 8; l++) {
+            Check.law(x, 128, (char) ('a' + l) + ">" + (char) ('b' + l));
+        }
+        x.sound(7, 63, 0);
+        x.sound(8, 0, 63);
+        Check.root(x, 0, "a");
+        Check.form(x, 0, 7, 0, "i");
+        Check.form(x, 0, 0, 1, "i");
+        check.due("22: by all eight LAWS", x.regular(0), 1);
+        check.due("21: by all eight LAWS", x.sought(0, 1, -2), 0);
+        check.due("21: one SOUND that becomes it", x.sought(0, 1, -1), 1);
+        check.due("23: by all eight LAWS", x.ways(0, 1), 1);
+        check.due("23: by those of its PLACE alone", x.ways(1, 1), 0);
+        check.due("21: by those of the PLACE alone", x.sought(1, 1, -2), 6);
     }
 
     private void regular() {

@@ -10,6 +10,8 @@ public final class LawsTest {
         force(check);
         done(check);
         sides(check);
+        everyFeature(check);
+        everyLetter(check);
         derived(check);
         latest(check);
         check.end();
@@ -209,6 +211,39 @@ public final class LawsTest {
         made(check, "d>a/-1_", "addbd", "aadbd");
         made(check, "d>a/_+5", "dddd", "dddd");
         made(check, "+0>c/_+0", "ab", "cb");
+    }
+
+    /** What a LAW makes of a ROOT, where FEATURE f is yes of a, no of b, and every other one the other way round. */
+    private static String made(int f, String text, String root) {
+        DialectForms x = Check.withPlaces(1);
+        x.sound(0, 1 << f, 63 & ~(1 << f));
+        x.sound(1, 63 & ~(1 << f), 1 << f);
+        Check.law(x, 1, text);
+        Check.root(x, 0, root);
+        return Check.derived(x, 0, 0, 8);
+    }
+
+    private static void everyFeature(Check check) {
+        for (int f = 0; f < 6; f++) {
+            check.isTrue("16: yes of FEATURE " + f, made(f, "+" + f + ">p", "abc").equals("pbc"));
+            check.isTrue("16: no of FEATURE " + f, made(f, "-" + f + ">p", "abc").equals("apc"));
+            check.isTrue("16: yes on the left", made(f, "c>p/+" + f + "_", "cacbcc").equals("capbcc"));
+            check.isTrue("16: no on the left", made(f, "c>p/-" + f + "_", "cacbcc").equals("cacbpc"));
+            check.isTrue("16: yes on the right", made(f, "c>p/_+" + f, "ccacbc").equals("cpacbc"));
+            check.isTrue("16: no on the right", made(f, "c>p/_-" + f, "ccacbc").equals("ccapbc"));
+        }
+    }
+
+    private static void everyLetter(Check check) {
+        for (char s = 'a'; s <= 'p'; s++) {
+            char other = s == 'a' ? 'p' : 'a';
+            String row = "" + s + other + s;
+            made(check, s + ">0", row, "" + other);
+            made(check, other + ">" + s, row, "" + s + s + s);
+            made(check, other + ">0/" + s + "_", row, "" + s + s);
+            made(check, other + ">0/_" + s, row, "" + s + s);
+            made(check, s + ">0/_" + other, row, "" + other + s);
+        }
     }
 
     private static void derived(Check check) {

@@ -10,6 +10,7 @@ public final class RootsTest {
         ways(check);
         waysRefusals(check);
         order(check);
+        orderOfEachPlace(check);
         orderTies(check);
         orderRefusals(check);
         check.end();
@@ -185,6 +186,28 @@ public final class RootsTest {
         ordered(check, x, 0, 2, 2, 0);
         Check.root(x, 3, "a");
         ordered(check, x, 0, 2, 2, 0);
+    }
+
+    /** At PLACE p the first p MEANINGS are SAID, six at the most; where p is odd, by an order that is not the first. */
+    private static void orderOfEachPlace(Check check) {
+        DialectForms x = Check.withPlaces(8);
+        Check.law(x, 255, "b>c");
+        Check.law(x, 0b10101010, "a>b");
+        for (int m = 0; m < 6; m++) {
+            Check.root(x, m, "a");
+        }
+        for (int p = 0; p < 8; p++) {
+            for (int m = 0; m < Math.min(p, 6); m++) {
+                Check.form(x, 0, p, m, p % 2 == 0 ? "a" : "c");
+            }
+        }
+        for (int p = 0; p < 8; p++) {
+            if (p % 2 == 0) {
+                ordered(check, x, p, Math.min(p, 6), 0);
+            } else {
+                ordered(check, x, p, Math.min(p, 6), 1, 0);
+            }
+        }
     }
 
     private static void orderTies(Check check) {
