@@ -186,6 +186,11 @@ public final class RootsTest {
         ordered(check, x, 0, 2, 2, 0);
         Check.root(x, 3, "a");
         ordered(check, x, 0, 2, 2, 0);
+        // nothing is SAID, but there is no ROOT that it could come from; then there is one, of nothing
+        Check.form(x, 0, 0, 4, "");
+        ordered(check, x, 0, 2, 2, 0);
+        Check.root(x, 4, "");
+        ordered(check, x, 0, 3, 2, 0);
     }
 
     /** At PLACE p the first p MEANINGS are SAID, six at the most; where p is odd, by an order that is not the first. */
