@@ -6,6 +6,7 @@ public final class GroupsTest {
         group(check);
         border(check);
         allBorders(check);
+        fewForms(check);
         bundle(check);
         area(check);
         check.end();
@@ -115,6 +116,27 @@ public final class GroupsTest {
             for (int q = p + 1; q < 8; q++) {
                 check.due("27: in order", x.border(0, k), 10 * p + q);
                 k++;
+            }
+        }
+    }
+
+    /** Two FORMS are all there are, at two of eight PLACES, be they the first or the last. */
+    private static void fewForms(Check check) {
+        for (int p = 0; p < 8; p++) {
+            for (int q = p + 1; q < 8; q++) {
+                DialectForms x = object(8);
+                Check.form(x, 0, q, 5, "a");
+                Check.form(x, 0, p, 5, "g");
+                x.near(q, p, true);
+                check.due("26: two", x.group(5, -1), 2);
+                check.due("26: each alone", x.group(5, q), q);
+                check.due("27: between " + p + " and " + q, x.border(5, -1), 1);
+                check.due("27: between " + p + " and " + q, x.border(5, 0), 10 * p + q);
+                check.due("28: one MEANING", x.bundle(q, p), 1);
+                x.limit(12);
+                check.due("26: LIKE", x.group(5, q), p);
+                check.due("27: LIKE", x.border(5, 0), -9);
+                check.due("28: LIKE", x.bundle(p, q), 0);
             }
         }
     }

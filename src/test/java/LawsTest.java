@@ -11,6 +11,7 @@ public final class LawsTest {
         done(check);
         sides(check);
         everyFeature(check);
+        featuresApart(check);
         everyLetter(check);
         derived(check);
         latest(check);
@@ -231,6 +232,31 @@ public final class LawsTest {
             check.isTrue("16: no on the left", made(f, "c>p/-" + f + "_", "cacbcc").equals("cacbpc"));
             check.isTrue("16: yes on the right", made(f, "c>p/_+" + f, "ccacbc").equals("cpacbc"));
             check.isTrue("16: no on the right", made(f, "c>p/_-" + f, "ccacbc").equals("ccapbc"));
+        }
+    }
+
+    /** What a LAW makes of the ROOT oao, where one FEATURE of a is yes, or no, and nothing else is told. */
+    private static String made(boolean yes, int f, String text) {
+        DialectForms x = Check.withPlaces(1);
+        x.sound(0, yes ? 1 << f : 0, yes ? 0 : 1 << f);
+        Check.law(x, 1, text);
+        Check.root(x, 0, "oao");
+        return Check.derived(x, 0, 0, 8);
+    }
+
+    /** A target or a side of one FEATURE is none of another one, and yes is not no. */
+    private static void featuresApart(Check check) {
+        for (int told = 0; told < 12; told++) {
+            for (int meant = 0; meant < 12; meant++) {
+                boolean yes = told < 6;
+                int f = told % 6;
+                String target = (meant < 6 ? "+" : "-") + meant % 6;
+                String what = "16: " + target + " where " + f + " is " + (yes ? "yes" : "no");
+                boolean is = told == meant;
+                check.isTrue(what, made(yes, f, target + ">p").equals(is ? "opo" : "oao"));
+                check.isTrue(what + ", left", made(yes, f, "o>n/" + target + "_").equals(is ? "oan" : "oao"));
+                check.isTrue(what + ", right", made(yes, f, "o>n/_" + target).equals(is ? "nao" : "oao"));
+            }
         }
     }
 
